@@ -1673,6 +1673,7 @@ public final class ZonedFabric {
                 answer(READY, command, lastRx, 1, count);
             } else {
                 sendBlocks(command, unit * BLOCKS + block, count);
+                answer(DONE, command, 0, 1, 0L);
             }
         }
 
@@ -1683,7 +1684,6 @@ public final class ZonedFabric {
                 data.addLoad(8, blocks[at + i]);
                 node.port.post(data);
             }
-            answer(DONE, command, 0, 1, 0L);
         }
 
         private void takeData(Frame data) {
