@@ -7,6 +7,8 @@ public final class CommandsTest {
         wrongAsks();
         fourAtATime();
         threeHundred();
+        greatNumbers();
+        endedOnesMakeRoom();
         readStepByStep();
         writeStepByStep();
         writesOfAllKinds();
@@ -23,6 +25,9 @@ public final class CommandsTest {
         openWriteGrowsOld();
         abortEndsAnOpenWrite();
         eightLogins();
+        newAddressNewLogin();
+        loggedFromNowhere();
+        dataOfAnOpenWrite();
         cutAtTheDisc();
         framesOfOthers();
         brokenBooks();
@@ -90,6 +95,7 @@ public final class CommandsTest {
             DUE.is("15: when(" + what + ")", x.when(c, what), -1);
             DUE.is("14: got(" + what + ")", x.got(c, what), 0);
         }
+        DUE.is("14: got(4)", x.got(c, 4), 0);
         int[][] none = {{0, 0, 0}, {-1, 0, 0}, {3, 0, 0}, {1, -1, 0}, {1, 2, 0}, {1, 0, -1}, {1, 0, 16},
             {Integer.MAX_VALUE, 0, 0}, {1, Integer.MIN_VALUE, 0}, {1, 0, Integer.MAX_VALUE}};
         for (int[] b : none) {
@@ -113,6 +119,26 @@ public final class CommandsTest {
         DUE.is("11: room again", x.read(0, 1, 0, 0, 1), 5);
     }
 
+    /** OX has two bytes. */
+    private static void greatNumbers() {
+        ZonedFabric x = new ZonedFabric(1, 4, 2);
+        x.disc(3);
+        for (int i = 0; i < 25; i++) {
+            for (int k = 0; k < 12; k++) {
+                x.read(k % 3, 3, 0, 0, 1);
+            }
+            if (i == 24) {
+                x.wire(0, 0, 17, 0, 1);
+                x.wire(0, 2, 19, 0, 1);
+                x.tick(20);
+                due(x, 0, 1, FabricModel.make(5, 0xFFFFFC, 0x010002, 289, 0, 0, 3));
+            }
+            x.tick(120);
+        }
+        DUE.is("13: command 298", x.status(298), 10);
+        DUE.is("13: command 299", x.status(299), 13);
+    }
+
     private static void threeHundred() {
         ZonedFabric x = new ZonedFabric(1, 4, 1);
         x.disc(3);
@@ -122,12 +148,36 @@ public final class CommandsTest {
                 DUE.is("11: command", x.read(k % 3, 3, 0, 0, 1), made++);
             }
             x.tick(120);
+            if (i == 23) {
+                x.wire(0, 0, 16, 0, 1);
+                x.tick(10);
+            }
         }
         DUE.is("11: no 301st", x.read(0, 3, 0, 0, 1), -1);
         DUE.is("12: no 301st", x.write(0, 3, 0, 0, 1, 0L), -1);
         DUE.is("13: the last", x.status(299), 13);
-        DUE.is("15: the last", x.when(299, 1), 3000);
+        DUE.is("15: the last", x.when(299, 1), 3010);
         DUE.is("22: commands", x.count(10), 300);
+    }
+
+    private static void endedOnesMakeRoom() {
+        ZonedFabric x = new ZonedFabric(1, 3, 2);
+        x.disc(1);
+        x.disc(2);
+        x.wire(0, 0, 16, 0, 1);
+        x.wire(0, 1, 17, 0, 1);
+        x.tick(10);
+        x.read(0, 1, 0, 0, 1);
+        int far = x.read(0, 2, 0, 0, 1);
+        x.tick(30);
+        DUE.is("13: the first has ended", x.status(0), 10);
+        for (int i = 0; i < 3; i++) {
+            DUE.is("11: three more", x.read(0, 1, 0, 0, 1), 2 + i);
+        }
+        DUE.is("11: not four", x.read(0, 1, 0, 0, 1), -1);
+        x.tick(90);
+        DUE.is("13: the one that goes on ends in time", x.status(far), 13);
+        DUE.is("15: at", x.when(far, 1), 130);
     }
 
     private static void state(ZonedFabric x, int c, int status, int phaseBegan) {
@@ -513,25 +563,88 @@ public final class CommandsTest {
         }
     }
 
+    /** The WELCOME to the disc comes as an ABORT, of the open WRITE or not quite of it. */
     private static void abortEndsAnOpenWrite() {
+        int[][] aborts = {{0x010001, 0}, {0x010001, 1}, {0x010203, 0}};
+        for (int[] abort : aborts) {
+            ZonedFabric x = lostReady();
+            x.tick(70);
+            until(x, 1, 0, 4);
+            DUE.become(x, 1, 0, FabricModel.make(13, 0x010102, abort[0], abort[1], 0, 0));
+            x.tick(1);
+            due(x, 1, 1, FabricModel.make(14, abort[0], 0x010102, abort[1], 0, 0));
+            x.write(2, 1, 1, 0, 2, 3L);
+            until(x, 1, 0, 11);
+            // an open WRITE takes these two
+            data(x, 0, 1, 0, 7);
+            data(x, 0, 1, 1, 8);
+            boolean ended = abort[0] == 0x010001 && abort[1] == 0;
+            DUE.is("16: is a WRITE open?", x.block(1, 0, 1), ended ? 0 : 8);
+            DUE.is("13: the host waits, ABORTED is not for phase 2", x.status(0), 2);
+        }
+    }
+
+    /** The frame to the disc, with a LOAD of eight, comes as DATA of host 0. */
+    private static void data(ZonedFabric x, int ox, int rx, int part, int value) {
+        DUE.become(x, 1, 0, FabricModel.make(11, 0x010102, 0x010001, ox, rx, part, 0, 0, 0, 0, 0, 0, 0, value));
+        x.tick(1);
+    }
+
+    private static void dataOfAnOpenWrite() {
         ZonedFabric x = lostReady();
-        int w = x.write(2, 1, 1, 0, 1, 3L);
-        until(x, 2, 1, 7);
-        DUE.is("12: RX 1 is open", x.block(1, 0, 0), 0);
-        x.tick(130 - x.count(0));
-        DUE.is("13: it went on besides", x.status(w), 10);
-        DUE.is("13: ABORT", kind(x, 0, 1), 13);
-        x.tick(4);
-        DUE.is("13: ABORTED", x.status(0), 12);
-        int v = x.write(2, 1, 1, 0, 2, 3L);
+        x.write(2, 1, 1, 0, 4, 3L);
         until(x, 1, 0, 11);
-        // an open WRITE would take these two
-        DUE.become(x, 1, 0, FabricModel.make(11, 0x010102, 0x010001, 0, 1, 0, 0, 0, 0, 0, 0, 0, 0, 7));
+        data(x, 0, 1, 2, 50);
+        data(x, 0, 1, 0, 51);
+        data(x, 0, 2, 1, 52);
+        data(x, 1, 1, 1, 53);
+        x.write(2, 1, 1, 0, 4, 3L);
+        until(x, 1, 0, 11);
+        DUE.become(x, 1, 0, FabricModel.make(11, 0x010102, 0x010203, 0, 1, 1, 0, 0, 0, 0, 0, 0, 0, 54));
         x.tick(1);
-        DUE.become(x, 1, 0, FabricModel.make(11, 0x010102, 0x010001, 0, 1, 1, 0, 0, 0, 0, 0, 0, 0, 8));
-        x.tick(1);
-        DUE.is("16: no WRITE is open with that RX", x.block(1, 0, 0), 0);
-        DUE.is("13: the other one waits", x.status(v), 2);
+        DUE.is("16: none of these was PART 1 of it", x.block(1, 0, 0) | x.block(1, 0, 1), 0);
+        data(x, 0, 1, 0, 55);
+        data(x, 0, 1, 1, 56);
+        DUE.is("16: the later value", x.block(1, 0, 0), 55);
+        DUE.is("16: PART 1", x.block(1, 0, 1), 56);
+        DUE.is("16: no PART 2", x.block(1, 0, 2), 0);
+        data(x, 0, 1, 1, 57);
+        DUE.is("16: it is open no more", x.block(1, 0, 1), 56);
+    }
+
+    private static void newAddressNewLogin() {
+        ZonedFabric x = new ZonedFabric(2, 2, 2);
+        x.disc(1);
+        x.wire(0, 0, 16, 0, 1);
+        x.wire(1, 0, 17, 0, 1);
+        x.wire(0, 1, 1, 1, 1);
+        x.tick(20);
+        int c = x.read(0, 1, 0, 0, 1);
+        x.tick(30);
+        DUE.is("13: logged in", x.status(c), 10);
+        x.domain(0, 9);
+        x.tick(60);
+        DUE.is("20: the host's address", x.address(0), 0x090001);
+        DUE.is("20: the disc's is as it was", x.address(1), 0x020002);
+        int d = x.read(0, 1, 0, 0, 1);
+        x.tick(4);
+        state(x, d, 1, x.count(0));
+        x.tick(20);
+        DUE.is("13: GOOD", x.status(d), 10);
+    }
+
+    private static void loggedFromNowhere() {
+        for (int last : new int[] {0, 4, 9, 255, 2, 3}) {
+            ZonedFabric x = small(2);
+            x.tick(10);
+            int c = x.read(0, 1, 0, 0, 1);
+            until(x, 0, 0, 8);
+            DUE.become(x, 0, 0, FabricModel.make(8, 0x010001, 0x010100 + last, 0, 0, 0));
+            x.tick(1);
+            DUE.is("13: LOGGED of " + last, x.status(c), last == 2 ? 2 : 1);
+            x.tick(30);
+            DUE.is("13: it is sent again", x.status(c), 10);
+        }
     }
 
     private static void eightLogins() {

@@ -10,6 +10,10 @@ public final class SwitchesTest {
         recordsGoOn();
         recordsAtAHello();
         recordsGrowOld();
+        oldRecordsMakeNoWays();
+        greatIssues();
+        takenAtASwitchsPort();
+        oneEndIsNotEnough();
         olderIssues();
         leastSums();
         parallelWires();
@@ -184,6 +188,67 @@ public final class SwitchesTest {
         DUE.is("18: kept no more", x.record(0, 2, 4), -1);
         DUE.yes("18: that of 1 is, which came anew", x.record(0, 1, 4) > 150);
         DUE.is("18: its own is not that old", x.record(2, 2, 2), 0);
+    }
+
+    private static void oldRecordsMakeNoWays() {
+        ZonedFabric x = row(2);
+        x.tick(20);
+        int kept = x.record(0, 1, 4);
+        DUE.is("18: kept", kept, 4);
+        for (int t = x.count(0); t < kept + 149; t++) {
+            x.tick(1);
+            x.flip(0, 1, 20);
+        }
+        DUE.is("17: way while it is kept", x.way(0, 2), 1);
+        x.tick(1);
+        DUE.is("18: kept no more", x.record(0, 1, 0), -1);
+        DUE.is("17: no way", x.way(0, 2), -1);
+        DUE.is("17: the other end has one", x.way(1, 1), 0);
+    }
+
+    private static void greatIssues() {
+        ZonedFabric x = row(2);
+        for (int i = 0; i < 40; i++) {
+            x.tick(300);
+        }
+        DUE.is("18: own issue, every 40 ticks since 3", x.record(0, 0, 0), 2 + (12000 - 3) / 40);
+        DUE.is("18: as the other keeps it", x.record(1, 0, 0), 2 + (12000 - 3) / 40);
+        DUE.is("22: issued", x.count(8), 2 * x.record(0, 0, 0));
+    }
+
+    /** The first HELLO of switch 0 comes as something else. */
+    private static void takenAtASwitchsPort() {
+        int[][] others = {{10, 0xFFFFFD}, {255, 0xFFFFFD}, {1, 0xFFFFFE}, {1, 0xFFFFFC}, {3, 0xFFFFFE}, {5, 0xFFFFFC}};
+        for (int[] other : others) {
+            ZonedFabric x = row(2);
+            x.tick(1);
+            DUE.become(x, 0, 0, FabricModel.make(other[0], other[1], 0xFFFFFD, 0, 0, 0, 0));
+            x.tick(1);
+            DUE.is("19: no neighbour by KIND " + other[0], x.port(1, 0, 3), -1);
+            DUE.is("18: no record", x.record(1, 0, 0), -1);
+            DUE.is("19: nothing in the queue", x.port(1, 0, 2), 0);
+            DUE.is("19: nothing in the buffers", x.port(1, 0, 1), 0);
+            for (int i = 1; i <= 5; i++) {
+                DUE.is("22: not counted", x.count(i), 0);
+            }
+        }
+    }
+
+    /** 2 has not heard the HELLO of 1, which tells of it: these two are not joined. */
+    private static void oneEndIsNotEnough() {
+        ZonedFabric x = new ZonedFabric(3, 1, 2);
+        x.wire(0, 1, 1, 0, 1);
+        x.wire(1, 1, 2, 0, 1);
+        x.wire(0, 2, 2, 1, 9);
+        x.tick(1);
+        x.flip(1, 0, 3);
+        x.tick(60);
+        DUE.is("19: 1 has a neighbour", x.port(1, 1, 3), 2);
+        DUE.is("19: 2 has none", x.port(2, 0, 3), -1);
+        DUE.is("18: 1 tells two", x.record(0, 1, 2), 2);
+        DUE.is("17: by the dear wire", x.way(0, 3), 2);
+        DUE.is("17: from 1 by 0", x.way(1, 3), 0);
+        DUE.is("17: from 2 by 0", x.way(2, 2), 1);
     }
 
     private static void olderIssues() {

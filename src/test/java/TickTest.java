@@ -180,6 +180,8 @@ public final class TickTest {
         }
         DUE.is("22: " + what + ", passed on", x.count(7), counted == 7 ? 1 : 0);
         DUE.is("19: " + what + ", buffers", x.port(0, 0, 1), 0);
+        boolean answered = kind == 5 && to == 0xFFFFFC && counted == 0 || kind == 3 && to == 0xFFFFFE;
+        DUE.is("19: " + what + ", queue", x.port(0, 0, 2), answered ? 1 : 0);
         x.tick(1);
         DUE.is("19: " + what + ", credits", x.port(16, 0, 0), 2);
     }
@@ -202,6 +204,9 @@ public final class TickTest {
         crafted(3, 0xFFFFFC, 0x010001, 0, "FLOGI TO FFFFFC");
         crafted(5, 0xFFFFFE, 0, 0, "ASK TO FFFFFE");
         crafted(1, 0xFFFFFD, 0xFFFFFD, 0, "HELLO at a node's port");
+        crafted(7, 0xFFFFFE, 0x010001, 0, "LOGIN TO FFFFFE");
+        crafted(7, 0xFFFFFC, 0x010001, 0, "LOGIN TO FFFFFC");
+        crafted(7, 0xFFFFFD, 0x010001, 0, "LOGIN TO FFFFFD");
     }
 
     private static void goneByZones() {
