@@ -17,6 +17,7 @@ public final class SwitchesTest {
         olderIssues();
         leastSums();
         parallelWires();
+        eightNeighbours();
         waysGoBothWays();
         offAndOnAgain();
         lowestHasTheDomain();
@@ -320,6 +321,19 @@ public final class SwitchesTest {
         x.cut(2);
         x.tick(5);
         DUE.is("17: the last", x.way(0, 2), 1);
+    }
+
+    private static void eightNeighbours() {
+        ZonedFabric x = new ZonedFabric(2, 1, 2);
+        for (int p = 0; p < 8; p++) {
+            x.wire(0, p, 1, 7 - p, 9 - p);
+        }
+        x.tick(20);
+        record(x, 0, 0, 2, 1, 8, 0, 3);
+        record(x, 1, 0, 2, 1, 8, 0, 4);
+        DUE.is("17: the cheapest", x.way(0, 2), 7);
+        DUE.is("17: at the other end", x.way(1, 1), 0);
+        DUE.is("22: nothing gone", x.count(1) + x.count(5), 0);
     }
 
     private static void waysGoBothWays() {
