@@ -774,10 +774,9 @@ public final class ZonedFabric {
         }
 
         void sendFirst() {
-            if (queue.size > 0 && canSend()) {
-                Frame frame = queue.take();
-                frame.seal();
-                send(frame);
+            if (queue.first != null && canSend()) {
+                queue.first.seal();
+                send(queue.take());
             }
         }
 
@@ -1260,6 +1259,9 @@ public final class ZonedFabric {
         void turn() {
             for (int left = port.buffers.size; left > 0; left--) {
                 Frame frame = port.leave();
+                if (frame == null) {
+                    break;
+                }
                 if (!frame.isTrue(shared)) {
                     shared.tally(UNTRUE);
                 } else if (frame.kind() == WELCOME && frame.from() == TO_LOGIN) {
