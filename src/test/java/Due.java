@@ -1,13 +1,24 @@
 /** Counts what was not as due, and ends the test with it; and turns frames on the way into others. */
 final class Due {
+    private final boolean loud;
     private int asked = 0;
     private int wrong = 0;
+
+    Due() {
+        this(true);
+    }
+
+    Due(boolean loud) {
+        this.loud = loud;
+    }
 
     void is(String what, long got, long want) {
         asked++;
         if (got != want) {
             wrong++;
-            System.out.println(what + " answered " + got + ", due is " + want);
+            if (loud) {
+                System.out.println(what + " answered " + got + ", due is " + want);
+            }
         }
     }
 
@@ -19,6 +30,14 @@ final class Due {
         is(what, got ? 1 : 0, 0);
     }
 
+    int asked() {
+        return asked;
+    }
+
+    int wrong() {
+        return wrong;
+    }
+
     /** All bytes of the frame on the way, or null. */
     static int[] bytesOf(ZonedFabric x, int wire, int side) {
         int[] head = bytesOf(x, wire, side, 13);
@@ -27,10 +46,21 @@ final class Due {
 
     private static int[] bytesOf(ZonedFabric x, int wire, int side, int size) {
         int[] bytes = new int[size];
+        long eight = 0;
         for (int i = 0; i < size; i++) {
-            bytes[i] = (int) (x.frame(wire, side, i) >>> 56);
+            eight = i % 8 == 0 ? x.frame(wire, side, i) : eight << 8;
+            bytes[i] = (int) (eight >>> 56);
         }
         return bytes;
+    }
+
+    /** Whether the frame on the way has these bytes, and no more. */
+    void frame(String what, ZonedFabric x, int wire, int side, int[] wanted) {
+        int[] now = bytesOf(x, wire, side, wanted.length + 1);
+        for (int i = 0; i < wanted.length; i++) {
+            is(what + ", byte " + i, now[i], wanted[i]);
+        }
+        is(what + ", behind its end", now[wanted.length], 0);
     }
 
     /** Flips the frame on the way into another one of the same length. */
@@ -41,11 +71,7 @@ final class Due {
                 yes("9: flip(" + wire + ", " + side + ", " + bit + ")", x.flip(wire, side, bit));
             }
         }
-        int[] then = bytesOf(x, wire, side, wanted.length + 1);
-        for (int i = 0; i < wanted.length; i++) {
-            is("9: byte " + i, then[i], wanted[i]);
-        }
-        is("9: no byte behind", then[wanted.length], 0);
+        frame("9: what it was flipped into", x, wire, side, wanted);
     }
 
     void end() {
