@@ -360,54 +360,82 @@ final class CallEdges {
         due.is("all that was sent arrived", arrived, y.count(6) - sent - onTheWay);
     }
 
-    @Sentence({"A host begins a READ: its number, from 0 on (phase 0, what it sends goes to the queue now); -1 if the nodes are no host and disc, "
-        + "unit, block, count are out of bounds (block + count at most 16), it has 4 that have not ended,",
-        "A host begins a WRITE: the blocks get v, v + 1, ..: as read()."})
+    /** Commands that a star of hosts 0 and 1 and disc 2 refuses. */
+    private static final int[][] REFUSED = {{-1, 2, 0, 0, 1}, {3, 2, 0, 0, 1}, {2, 2, 0, 0, 1}, {0, 0, 0, 0, 1}, {0, 1, 0, 0, 1},
+        {0, 3, 0, 0, 1}, {0, -1, 0, 0, 1}, {2, 0, 0, 0, 1}, {0, 2, -1, 0, 1}, {0, 2, 2, 0, 1}, {0, 2, 0, -1, 1}, {0, 2, 0, 16, 1},
+        {0, 2, 0, 0, 0}, {0, 2, 0, 0, 5}, {0, 2, 0, 0, -1}, {0, 2, 0, 13, 4}, {0, 2, 1, 14, 3}, {0, 2, 0, 15, 2}, {0, 2, 0, 16, 0},
+        {0, 2, 0, 17, -1}};
+
+    /** A READ or a WRITE of v. */
+    private static int begin(ZonedFabric x, boolean writes, int[] c, long v) {
+        return writes ? x.write(c[0], c[1], c[2], c[3], c[4], v) : x.read(c[0], c[1], c[2], c[3], c[4]);
+    }
+
+    private static ZonedFabric refusals(Due due, boolean writes) {
+        ZonedFabric x = Scene.star(3, 2);
+        x.tick(10);
+        for (int[] c : REFUSED) {
+            due.is("command " + java.util.Arrays.toString(c), begin(x, writes, c, 5L), -1);
+        }
+        for (int wild : Scene.WILD) {
+            for (int i = 0; i < 5; i++) {
+                int[] c = {0, 2, 0, 1, 4};
+                c[i] = wild;
+                due.is("command " + java.util.Arrays.toString(c), begin(x, writes, c, 5L), -1);
+            }
+        }
+        due.is("none began", x.count(10) + x.port(16, 0, 2), 0);
+        int[][] right = {{0, 2, 1, 12, 4}, {0, 2, 0, 15, 1}, {0, 2, 0, 0, 4}, {0, 2, 1, 0, 1}};
+        for (int i = 0; i < 4; i++) {
+            due.is("its number", begin(x, writes, right[i], 70L * i), i);
+            due.is("phase 0", x.status(i), 0);
+            due.is("ASK is in the queue now", x.port(16, 0, 2), i + 1);
+        }
+        due.is("a fifth", begin(x, writes, right[0], 1L), -1);
+        due.is("of the other host", begin(x, writes, new int[] {1, 2, 0, 8, 1}, 5L), 4);
+        x.tick(80);
+        for (int c = 0; c < 5; c++) {
+            due.is("GOOD", x.status(c), 10);
+        }
+        due.is("the next one", begin(x, writes, right[0], Long.MAX_VALUE - 1), 5);
+        x.tick(40);
+        return x;
+    }
+
+    @Sentence("A host begins a READ: its number, from 0 on (phase 0, what it sends goes to the queue now); -1 if the nodes are no host and disc, "
+        + "unit, block, count are out of bounds (block + count at most 16), it has 4 that have not ended,")
     @Slip(from = "block >= 0 && block <= BLOCKS - count", to = "block >= 0 && block <= BLOCKS - 1")
     @Slip(from = "block >= 0 && block <= BLOCKS - count", to = "block >= 0 && block < BLOCKS - count")
     @Slip(from = "block >= 0 && block <= BLOCKS - count", to = "block >= -1 && block <= BLOCKS - count")
     @Slip(from = "block >= 0 && block <= BLOCKS - count", to = "block >= 0 && block + count <= BLOCKS")
     @Slip(from = "return isHost(host) && isDisc(disc) && unit >= 0 && unit < UNITS", to = "return isHost(host) && isDisc(disc) && unit >= 0 && unit <= UNITS")
     @Slip(from = "return isHost(host) && isDisc(disc) && unit >= 0 && unit < UNITS", to = "return isHost(host) && isDisc(disc) && unit > 0 && unit < UNITS")
+    @Slip(from = "return isHost(host) && isDisc(disc) && unit >= 0 && unit < UNITS", to = "return isHost(host) && shared.isNode(disc) && unit >= 0 && unit < UNITS")
     @Slip(from = "&& count >= 1 && count <= PARTS", to = "&& count >= 0 && count <= PARTS")
     @Slip(from = "&& count >= 1 && count <= PARTS", to = "&& count >= 1 && count <= PARTS + 1")
     @Slip(from = "&& commandsBegun < COMMANDS && nodes[host].host.hasRoom();", to = "&& commandsBegun < COMMANDS;")
-    @Slip(from = "data.addLoad(8, command.first + i);", to = "data.addLoad(8, command.first);")
     @Slip(from = "                enter(command, NAMING);", to = "                command.phaseAt = shared.time;")
-    static void readAndWrite(Due due) {
-        ZonedFabric x = Scene.star(3, 2);
-        x.tick(10);
-        int[][] none = {{-1, 2, 0, 0, 1}, {3, 2, 0, 0, 1}, {2, 2, 0, 0, 1}, {0, 0, 0, 0, 1}, {0, 1, 0, 0, 1}, {0, 3, 0, 0, 1}, {0, -1, 0, 0, 1},
-            {2, 0, 0, 0, 1}, {0, 2, -1, 0, 1}, {0, 2, 2, 0, 1}, {0, 2, 0, -1, 1}, {0, 2, 0, 16, 1}, {0, 2, 0, 0, 0}, {0, 2, 0, 0, 5},
-            {0, 2, 0, 0, -1}, {0, 2, 0, 13, 4}, {0, 2, 1, 14, 3}, {0, 2, 0, 15, 2}, {0, 2, 0, 16, 0}, {0, 2, 0, 17, -1}};
-        for (int[] c : none) {
-            due.is("read " + java.util.Arrays.toString(c), x.read(c[0], c[1], c[2], c[3], c[4]), -1);
-            due.is("write " + java.util.Arrays.toString(c), x.write(c[0], c[1], c[2], c[3], c[4], 5L), -1);
-        }
-        for (int wild : Scene.WILD) {
-            for (int i = 0; i < 5; i++) {
-                int[] c = {0, 2, 0, 1, 4};
-                c[i] = wild;
-                due.is("read " + java.util.Arrays.toString(c), x.read(c[0], c[1], c[2], c[3], c[4]), -1);
-                due.is("write " + java.util.Arrays.toString(c), x.write(c[0], c[1], c[2], c[3], c[4], 5L), -1);
-            }
-        }
-        due.is("none began", x.count(10) + x.port(16, 0, 2), 0);
-        due.is("the last four blocks", x.write(0, 2, 1, 12, 4, Long.MAX_VALUE - 1), 0);
-        due.is("ASK is in the queue now", x.port(16, 0, 2), 1);
-        due.is("phase 0", x.status(0), 0);
-        due.is("the last block", x.write(0, 2, 0, 15, 1, 9L), 1);
-        due.is("the first four blocks", x.read(0, 2, 0, 0, 4), 2);
-        due.is("the first block", x.read(0, 2, 1, 0, 1), 3);
-        due.is("ASKs are in the queue now", x.port(16, 0, 2), 4);
-        due.is("a fifth", x.read(0, 2, 0, 0, 1), -1);
-        due.is("a fifth", x.write(0, 2, 0, 0, 1, 1L), -1);
-        x.tick(60);
+    static void read(Due due) {
+        ZonedFabric x = refusals(due, false);
+        due.is("it wrote nothing", x.block(2, 0, 0) | x.block(2, 1, 12), 0);
+    }
+
+    @Sentence("A host begins a WRITE: the blocks get v, v + 1, ..: as read().")
+    @Slip(from = "data.addLoad(8, command.first + i);", to = "data.addLoad(8, command.first);")
+    @Slip(from = "        if (!canBegin(host, disc, unit, block, count)) {\n            return -1;\n        }\n        return begin(host, disc, new Command(true",
+        to = "        if (!canBegin(host, disc, unit, Math.min(block, 12), count)) {\n            return -1;\n        }\n        return begin(host, disc, new Command(true")
+    @Slip(from = "new Command(true, unit, block, count, v)", to = "new Command(true, unit, block, count, Math.min(v, Long.MAX_VALUE - 3))")
+    static void write(Due due) {
+        ZonedFabric x = refusals(due, true);
         due.is("v", x.block(2, 1, 12), Long.MAX_VALUE - 1);
         due.is("v + 1", x.block(2, 1, 13), Long.MAX_VALUE);
         due.is("v + 2, round", x.block(2, 1, 14), Long.MIN_VALUE);
         due.is("v + 3", x.block(2, 1, 15), Long.MIN_VALUE + 1);
-        due.is("the next one", x.read(0, 2, 0, 0, 1), 4);
+        for (int b = 0; b < 4; b++) {
+            due.is("another v + " + b, x.block(2, 0, b), 140 + b);
+        }
+        due.is("one block alone", x.block(2, 0, 15), 70);
+        due.is("none ahead of it", x.block(2, 0, 14), 0);
     }
 
     @Sentence("or there are 300.")

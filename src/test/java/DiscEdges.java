@@ -14,12 +14,14 @@ final class DiscEdges {
         return x;
     }
 
-    private static void login(ZonedFabric x, int host) {
-        x.read(host, 7, 0, 0, 1);
+    /** A READ of the host at disc 7, which is logged in for it; GOOD or BAD. */
+    private static int login(ZonedFabric x, int host) {
+        int c = x.read(host, 7, 0, 0, 1);
         x.tick(20);
+        return x.status(c);
     }
 
-    /** Another LOGIN of the host to the disc, which comes FROM that address. */
+    /** A LOGIN of the host at disc 7 that comes FROM another address; the host's wire is cut behind it. */
     private static void loginFrom(Due due, ZonedFabric x, int host, int from) {
         x.cut(host);
         x.join(host);
@@ -39,30 +41,33 @@ final class DiscEdges {
     @Slip(from = "            if (isLoggedIn(from)) {\n                return;\n            }\n",
         to = "            for (int i = 0; i + 1 < loginCount; i++) {\n                if (logins[i] == from) {\n                    logins[i] = logins[i + 1];\n                    logins[i + 1] = from;\n                }\n            }\n            if (isLoggedIn(from)) {\n                return;\n            }\n")
     @Slip(from = "System.arraycopy(logins, 1, logins, 0, DISC_LOGINS - 1);", to = "loginCount += 0;")
+    @Slip(from = "System.arraycopy(logins, 1, logins, 0, DISC_LOGINS - 1);", to = "System.arraycopy(logins, 1, logins, 0, DISC_LOGINS - 2);")
     @Slip(from = "logIn(frame.from());\n                    answer(LOGGED", to = "logIn(frame.from());\n                    answer(ABORTED")
     static void eightLogins(Due due) {
-        for (int more = 0; more <= 2; more++) {
+        for (int more = 0; more < 2; more++) {
             ZonedFabric x = Scene.star(8, 4);
             x.tick(10);
-            for (int host = 0; host < 7; host++) {
-                login(x, host);
+            due.is("host 0", login(x, 0), 10);
+            loginFrom(due, x, 1, 0x020001);
+            x.join(1);
+            x.tick(30);
+            for (int host = 1; host < 7; host++) {
+                due.is("host " + host, login(x, host), 10);
             }
             // host 0 logs in a second time, and stays the oldest
             x.cut(0);
             x.join(0);
             x.tick(10);
-            login(x, 0);
-            due.is("the second login", x.status(7), 10);
-            for (int i = 0; i < more; i++) {
-                loginFrom(due, x, 6, 0x020001 + 256 * i);
+            due.is("host 0 again", login(x, 0), 10);
+            if (more > 0) {
+                loginFrom(due, x, 5, 0x020002);
             }
-            int c = x.read(0, 7, 0, 0, 1);
-            int d = x.read(1, 7, 0, 0, 1);
-            x.tick(4);
-            due.is("host 0 thinks that it is logged in", x.status(c), 2);
-            x.tick(20);
-            due.is("the oldest of " + (7 + more), x.status(c), more < 2 ? 10 : 11);
-            due.is("the next oldest of " + (7 + more), x.status(d), 10);
+            due.is("the oldest of " + (8 + more), login(x, 0), more == 0 ? 10 : 11);
+            for (int host = 1; host < 7; host++) {
+                if (host != 5) {
+                    due.is("host " + host + " of " + (8 + more), login(x, host), 10);
+                }
+            }
         }
     }
 
@@ -268,6 +273,7 @@ final class DiscEdges {
     @Slip(from = "                values[part] = value;\n", to = "                values[part] = (cameBits >> part & 1) == 1 ? values[part] : value;\n")
     @Slip(from = "            }\n            write.open = false;\n        }\n\n        private void takeAbort", to = "            }\n        }\n\n        private void takeAbort")
     @Slip(from = "answer(DONE, data, write.rx, 1, 0L);", to = "answer(DONE, data, write.rx, 1, 1L);")
+    @Slip(from = "            cameBits = 0;\n", to = "")
     @Slip(from = "boolean hasAll() {\n            return cameBits == (1 << count) - 1;\n        }\n    }\n}", to = "boolean hasAll() {\n            return cameBits >= 1 << count - 1;\n        }\n    }\n}")
     static void whenAllHaveCome(Due due) {
         ZonedFabric x = openWrite(due);
@@ -285,6 +291,15 @@ final class DiscEdges {
         due.is("open no more", x.block(2, 0, 0), 52);
         x.tick(1);
         due.is("no second answer", Scene.kind(x, 2, 1), 0);
+        // the next WRITE waits for all of its own
+        x.tick(20);
+        due.is("write", x.write(0, 2, 0, 0, 2, 60L), 2);
+        Scene.until(due, x, 2, 0, 11);
+        x.tick(1);
+        due.is("the first part of the next WRITE", x.block(2, 0, 0), 52);
+        x.tick(1);
+        due.is("all: the first block", x.block(2, 0, 0), 60);
+        due.is("all: the second block", x.block(2, 0, 1), 61);
     }
 
     @Sentence("ABORT: those open with that OX and FROM are no more; ABORTED goes back.")
@@ -418,6 +433,8 @@ final class DiscEdges {
     @Sentence("(Its wire being cut, a node has no address, LOGINS, open WRITES.)")
     @Slip(from = "            address = 0;\n            forgetLogins();", to = "            address = 0;")
     @Slip(from = "            address = 0;\n            forgetLogins();", to = "            forgetLogins();")
+    @Slip(from = "for (int i = 0; i < logins.length; i++) {", to = "for (int i = 1; i < logins.length; i++) {")
+    @Slip(from = "for (int i = 0; i < logins.length; i++) {", to = "for (int i = 0; i < logins.length - 1; i++) {")
     @Slip(from = "            loginCount = 0;\n            for", to = "            for")
     @Slip(from = "            loginCount = 0;\n            for (int i = 0; i < OPEN_WRITES; i++) {", to = "            loginCount = 0;\n            for (int i = 1; i < OPEN_WRITES; i++) {")
     static void cutOff(Due due) {
@@ -433,14 +450,21 @@ final class DiscEdges {
         data(due, x, HOST, 0, 1, 0, 50);
         data(due, x, HOST, 0, 1, 1, 51);
         due.is("no WRITE is open", x.block(2, 0, 0), 0);
-        ZonedFabric y = ready();
-        y.read(0, 2, 0, 0, 1);
-        y.tick(20);
-        y.cut(0);
-        y.join(0);
-        y.tick(10);
-        int c = y.read(0, 2, 0, 0, 1);
-        y.tick(4);
-        due.is("the host knows no login", y.status(c), 1);
+        for (int disc = 0; disc < 2; disc++) {
+            ZonedFabric y = new ZonedFabric(1, 2, 4);
+            y.disc(disc);
+            y.wire(0, 0, 17 - disc, 0, 1);
+            y.wire(0, 1, 16 + disc, 0, 1);
+            y.tick(10);
+            y.read(1 - disc, disc, 0, 0, 1);
+            y.tick(20);
+            due.is("it was logged in", y.status(0), 10);
+            y.cut(0);
+            y.join(0);
+            y.tick(10);
+            int c = y.read(1 - disc, disc, 0, 0, 1);
+            y.tick(4);
+            due.is("the host knows no login at disc " + disc, y.status(c), 1);
+        }
     }
 }

@@ -1,6 +1,6 @@
 import java.util.zip.CRC32;
 
-/** Promises 9 and 21: frames on the way, their bytes, what a flip does, and which frames are TRUE. */
+/** Promises 9 and 21: frames on the way, their bytes, and what a flip does. */
 public final class FramesTest {
     private static final Due DUE = new Due();
 
@@ -10,8 +10,6 @@ public final class FramesTest {
         flips();
         flipBackIsTrue();
         flippedAtANode();
-        forms();
-        recordForms();
         DUE.end();
     }
 
@@ -117,116 +115,5 @@ public final class FramesTest {
         DUE.become(x, 0, 0, FabricModel.make(4, 0x123457, 0xFFFFFC, 0, 0, 0));
         x.tick(1);
         DUE.is("20: FROM FFFFFE alone", x.address(0), 0x123456);
-    }
-
-    /** Whether a frame with that KIND and LOAD is TRUE where it arrives. */
-    private static void form(boolean isTrue, int kind, int... load) {
-        ZonedFabric x = new ZonedFabric(2, 3, 4);
-        x.disc(1);
-        x.wire(0, 0, 1, 0, 3);
-        x.wire(0, 1, 16, 0, 1);
-        if (load.length != 13) {
-            x.wire(1, 1, 17, 0, 1);
-        }
-        x.wire(0, 2, 1, 2, 3);
-        for (int t = 0; t < 60; t++) {
-            if (t == 20) {
-                x.write(0, 1, 0, 0, 1, 5L);
-            }
-            x.tick(1);
-            for (int w = 0; w < 8; w++) {
-                int[] now = Due.bytesOf(x, w / 2, w % 2);
-                if (now != null && now.length == 17 + load.length) {
-                    DUE.become(x, w / 2, w % 2, FabricModel.make(kind, 0x0F0001, 0x0F0001, 0, 0, 0, load));
-                    x.tick(1);
-                    DUE.is("22: KIND " + kind + " LOAD " + java.util.Arrays.toString(load), x.count(1), isTrue ? 0 : 1);
-                    return;
-                }
-            }
-        }
-        DUE.yes("a frame with a LOAD of " + load.length, false);
-    }
-
-    private static void forms() {
-        int[] none = {};
-        int[] eight = {0, 0, 0, 0, 0, 0, 0, 0};
-        for (int kind : new int[] {1, 2, 3, 5, 6, 7, 9, 10, 11, 12}) {
-            form(false, kind, none);
-            form(kind == 11, kind, eight);
-        }
-        for (int kind : new int[] {0, 4, 8, 13, 14, 15, 255}) {
-            form(true, kind, none);
-            form(true, kind, 255);
-            form(true, kind, 255, 255, 255, 255);
-            form(true, kind, eight);
-        }
-        form(true, 1, 1);
-        form(false, 1, 2);
-        form(false, 1, 255);
-        form(false, 1, 0, 0, 0, 0);
-        for (int kind : new int[] {3, 5, 7}) {
-            form(true, kind, 2);
-            form(false, kind, 3);
-            form(false, kind, 0, 0, 0, 0);
-        }
-        form(true, 6, 2, 0, 0, 0);
-        form(true, 6, 2, 1, 0, 3);
-        form(true, 6, 2, 0, 0, 3);
-        form(false, 6, 2, 1, 0, 0);
-        form(false, 6, 2, 0, 1, 0);
-        form(false, 6, 2, 0, 0, 2);
-        form(false, 6, 3, 0, 0, 0);
-        form(false, 6, 3, 0, 0, 4);
-        form(false, 6, 0);
-        form(true, 9, 255, 0, 255, 255);
-        form(true, 9, 255, 1, 255, 255);
-        form(false, 9, 0, 2, 0, 1);
-        form(false, 9, 0);
-        form(true, 10, 255);
-        form(false, 10, 0, 0, 0, 0);
-        form(false, 11, 0);
-        form(false, 11, 0, 0, 0, 0);
-        form(true, 12, 0);
-        form(true, 12, 1);
-        form(false, 12, 2);
-        form(false, 12, 0, 0, 0, 0);
-        wrongSize();
-    }
-
-    private static void wrongSize() {
-        for (int n : new int[] {0, 1, 2, 255}) {
-            ZonedFabric x = new ZonedFabric(1, 1, 1);
-            x.wire(0, 0, 16, 0, 1);
-            x.tick(1);
-            int[] frame = FabricModel.make(0, 0x0F0001, 0x0F0001, 0, 0, 0, 9);
-            frame[12] = n;
-            FabricModel.setCheck(frame);
-            DUE.become(x, 0, 1, frame);
-            x.tick(1);
-            DUE.is("22: n " + n + " of 1", x.count(1), n == 1 ? 0 : 1);
-        }
-    }
-
-    private static void recordForms() {
-        int[] good = {1, 0, 0, 0, 15, 2, 0, 0, 1, 7, 1, 9, 1, 2, 7};
-        form(true, 2, good);
-        int[][] bad = {{0, 2}, {0, 255}, {4, 0}, {4, 16}, {5, 1}, {5, 0}, {5, 3}, {5, 255}, {6, 7}, {6, 8}, {7, 2}, {8, 0},
-            {8, 10}, {9, 0}, {9, 8}, {10, 2}, {11, 0}, {11, 10}, {12, 0}, {12, 2}, {12, 255}, {13, 3}, {14, 8}};
-        for (int[] b : bad) {
-            int[] load = good.clone();
-            load[b[0]] = b[1];
-            form(false, 2, load);
-        }
-        int[][] right = {{0, 0}, {1, 255}, {2, 255}, {3, 255}, {4, 1}, {6, 6}, {7, 1}, {8, 9}, {9, 1}, {11, 1}, {13, 0}, {14, 0}};
-        for (int[] r : right) {
-            int[] load = good.clone();
-            load[r[0]] = r[1];
-            form(true, 2, load);
-        }
-        // three nodes alone are as long as two neighbours
-        form(true, 2, 0, 0, 0, 0, 1, 0, 3, 0, 0, 1, 1, 2, 7);
-        form(false, 2, 0, 0, 0, 0, 1, 0, 3, 0, 0, 1, 1, 0, 7);
-        form(false, 2, 0, 0, 0, 0, 1, 0, 3, 0, 0, 1, 0, 2, 7);
-        form(false, 2, 0, 0, 0, 0, 1, 0, 3, 0, 5, 1, 3, 2, 7);
     }
 }

@@ -26,6 +26,7 @@ final class HostEdges {
     @Slip(from = "int LIVE_COMMANDS = 4;", to = "int LIVE_COMMANDS = 3;")
     @Slip(from = "int LIVE_COMMANDS = 4;", to = "int LIVE_COMMANDS = 5;")
     @Slip(from = "                if (!recent[i].isEnded()) {\n                    recent[kept]", to = "                if (recent[i] != null) {\n                    recent[kept]")
+    @Slip(from = "                    recent[kept] = recent[i];\n", to = "")
     static void fourAtATime(Due due) {
         ZonedFabric x = Scene.star(3, 2);
         x.tick(10);
@@ -48,6 +49,29 @@ final class HostEdges {
             due.is("all have ended: one more", x.read(0, 2, 0, 0, 1), 6 + i);
         }
         due.is("and no fifth", x.read(0, 2, 0, 0, 1), -1);
+        oneGoesOn(due);
+    }
+
+    /** One ends, one that waits for a disc without a wire goes on, others begin; it ends in its own time. */
+    private static void oneGoesOn(Due due) {
+        ZonedFabric x = new ZonedFabric(1, 3, 2);
+        x.disc(1);
+        x.disc(2);
+        x.wire(0, 0, 16, 0, 1);
+        x.wire(0, 1, 17, 0, 1);
+        x.tick(10);
+        x.read(0, 1, 0, 0, 1);
+        int far = x.read(0, 2, 0, 0, 1);
+        x.tick(30);
+        due.is("the first has ended", x.status(0), 10);
+        for (int i = 0; i < 3; i++) {
+            due.is("three more", x.read(0, 1, 0, 0, 1), 2 + i);
+        }
+        due.is("not four", x.read(0, 1, 0, 0, 1), -1);
+        x.tick(89);
+        due.is("the one that goes on", x.status(far), 0);
+        x.tick(1);
+        due.is("it ends", x.status(far), 13);
     }
 
     @Sentence("each in a PHASE, with OX (its number modulo 65536): to a DISC, READ or WRITE, a unit, the first block, how many (1 .. 4).")
@@ -182,27 +206,48 @@ final class HostEdges {
         return x;
     }
 
-    @Sentence({"1 LOGIN: LOGIN (7; TO the disc, OX, LOAD the host) is sent.",
-        "LOGGED (8) FROM an address whose last byte is a node + 1 (whether one waits for it or not): the host is logged in there"})
+    @Sentence("1 LOGIN: LOGIN (7; TO the disc, OX, LOAD the host) is sent.")
+    @Slip(from = "                frame.addLoad(1, node.number);", to = "                frame.addLoad(1, command.disc);")
+    @Slip(from = "PHASE_KINDS = {ASK, LOGIN, COMMAND, ABORT}", to = "PHASE_KINDS = {ASK, LOGGED, COMMAND, ABORT}")
+    static void login(Due due) {
+        ZonedFabric x = Scene.star(3, 4);
+        x.tick(10);
+        x.read(0, 2, 0, 0, 1);
+        x.read(1, 2, 0, 0, 1);
+        x.read(1, 2, 0, 0, 1);
+        x.tick(4);
+        due.frame("LOGIN of host 0", x, 0, 1, FabricModel.make(7, Scene.home(2), Scene.home(0), 0, 0, 0, 0));
+        due.frame("LOGIN of host 1", x, 1, 1, FabricModel.make(7, Scene.home(2), Scene.home(1), 1, 0, 0, 1));
+        x.tick(1);
+        due.frame("its second", x, 1, 1, FabricModel.make(7, Scene.home(2), Scene.home(1), 2, 0, 0, 1));
+    }
+
+    @Sentence("LOGGED (8) FROM an address whose last byte is a node + 1 (whether one waits for it or not): the host is logged in there")
     @Slip(from = "if (disc < 0 || disc >= logins.length) {\n                return;\n            }\n            logins[disc] = from;",
         to = "if (disc < 0 || disc >= logins.length - 1) {\n                return;\n            }\n            logins[disc] = from;")
     @Slip(from = "if (disc < 0 || disc >= logins.length) {\n                return;\n            }\n            logins[disc] = from;",
         to = "if (disc < 0 || disc > logins.length) {\n                return;\n            }\n            logins[disc] = from;")
     @Slip(from = "if (disc < 0 || disc >= logins.length) {\n                return;\n            }\n            logins[disc] = from;",
         to = "if (disc >= logins.length) {\n                return;\n            }\n            logins[disc] = from;")
+    @Slip(from = "if (disc < 0 || disc >= logins.length) {\n                return;\n            }\n            logins[disc] = from;",
+        to = "if (disc < 1 || disc >= logins.length) {\n                return;\n            }\n            logins[disc] = from;")
     @Slip(from = "            logins[disc] = from;\n            for (int i = 0; i < recentCount; i++) {\n                if (recent[i].state == LOGGING_IN && recent[i].address == from) {",
         to = "            for (int i = 0; i < recentCount; i++) {\n                if (recent[i].state == LOGGING_IN && recent[i].address == from) {\n                    logins[disc] = from;")
-    @Slip(from = "                frame.addLoad(1, node.number);", to = "                frame.addLoad(1, command.disc);")
     static void loggedFromANode(Due due) {
-        ZonedFabric x = ready(2);
-        x.read(0, 1, 0, 0, 1);
-        x.tick(4);
-        due.frame("LOGIN", x, 0, 1, FabricModel.make(7, DISC, HOST, 0, 0, 0, 0));
         for (int last : new int[] {0, 1, 2, 3, 9, 255}) {
             ZonedFabric y = logged(due, 0x010100 | last);
             due.is("FROM's last byte " + last, y.status(0), last == 2 ? 2 : 1);
             due.is("none is counted", y.count(1) + y.count(2) + y.count(3), 0);
         }
+        // node 0 is the disc
+        ZonedFabric w = new ZonedFabric(1, 2, 2);
+        w.disc(0);
+        w.wire(0, 0, 17, 0, 1);
+        w.wire(0, 1, 16, 0, 1);
+        w.tick(10);
+        w.read(1, 0, 0, 0, 1);
+        w.tick(8);
+        due.is("LOGGED of node 0", w.status(0), 2);
         // none waits for it: a LOGGED in the place of WELCOME
         ZonedFabric z = ready(2);
         z.tick(83);
@@ -313,12 +358,34 @@ final class HostEdges {
         due.is("the command ended", x.when(0, 1), end);
     }
 
-    @Sentence({"What a phase sends goes to the queue as it begins, and in phases 0, 1, 3 again in every 20th tick since.",
-        "(First this, then what is to be sent again."})
+    @Sentence("(First this, then what is to be sent again.")
+    @Slip(from = "            if (command.state < WORKING && old) {\n", to = "            if (inPhase > 0 && inPhase % SEND_AGAIN == 0 && command.state != WORKING) {\n                sendForPhase(command);\n            }\n            if (command.state < WORKING && old) {\n")
+    @Slip(from = "} else if (command.state == ABORTING && inPhase >= ABORT_LIFE) {\n", to = "} else if (command.state == ABORTING && inPhase >= ABORT_LIFE) {\n                sendForPhase(command);\n")
+    static void firstTheEnd(Due due) {
+        // 120 ticks since it began, and 60 in phase 3, are 20th ticks, too: in these it ends, and sends nothing
+        ZonedFabric x = ready(2);
+        x.tick(7);
+        x.cut(1);
+        x.tick(1);
+        x.read(0, 1, 0, 0, 1);
+        x.tick(100);
+        due.is("ASK in the 100th tick", Scene.kind(x, 0, 1), 5);
+        x.tick(20);
+        due.is("ended in the 120th", x.when(0, 1), 138);
+        due.is("no ASK", Scene.kind(x, 0, 1) + x.port(16, 0, 2), 0);
+        ZonedFabric y = lost(due, 9, false);
+        y.cut(1);
+        y.tick(170 - y.count(0));
+        due.is("ABORT in the 40th tick of phase 3", Scene.kind(y, 0, 1), 13);
+        y.tick(20);
+        due.is("ended in the 60th", y.when(0, 1), 190);
+        due.is("no ABORT", Scene.kind(y, 0, 1) + y.port(16, 0, 2), 0);
+    }
+
+    @Sentence("What a phase sends goes to the queue as it begins, and in phases 0, 1, 3 again in every 20th tick since.")
     @Slip(from = "int SEND_AGAIN = 20;", to = "int SEND_AGAIN = 19;")
     @Slip(from = "int SEND_AGAIN = 20;", to = "int SEND_AGAIN = 21;")
     @Slip(from = "int inPhase = shared.time - command.phaseAt;", to = "int inPhase = shared.time - command.beganAt;")
-    @Slip(from = "            if (command.state < WORKING && old) {\n", to = "            if (inPhase > 0 && inPhase % SEND_AGAIN == 0 && command.state != WORKING) {\n                sendForPhase(command);\n            }\n            if (command.state < WORKING && old) {\n")
     @Slip(from = "            command.phaseAt = shared.time;\n            sendForPhase(command);", to = "            command.phaseAt = shared.time;\n            if (phase != LOGGING_IN) {\n                sendForPhase(command);\n            }")
     static void sentAgainInThe20thTick(Due due) {
         // the disc has no wire

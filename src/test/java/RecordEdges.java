@@ -3,11 +3,24 @@ final class RecordEdges {
     private RecordEdges() {
     }
 
-    @Sentence({"==== SWITCHES KINDS 1 HELLO, 2 RECORD: TO and FROM FFFFFD.",
-        "A RECORD tells a switch: LOAD: its number, its ISSUE (three bytes), domain, how many neighbours, each: port, switch, "
-        + "cost; how many nodes, each: node, port (both by rising ports; nodes with an address alone)."})
+    @Sentence("==== SWITCHES KINDS 1 HELLO, 2 RECORD: TO and FROM FFFFFD.")
     @Slip(from = "shared.draft(RECORD, TO_SWITCH, TO_SWITCH, 0)", to = "shared.draft(RECORD, TO_SWITCH, 0, 0)")
     @Slip(from = "shared.draft(HELLO, TO_SWITCH, TO_SWITCH, 0)", to = "shared.draft(HELLO, TO_SWITCH, 0, 0)")
+    static void kindsOfSwitches(Due due) {
+        ZonedFabric x = Scene.row(2, 2);
+        x.tick(1);
+        for (int s = 0; s < 2; s++) {
+            due.frame("HELLO", x, 0, s, FabricModel.make(1, Scene.TO_SWITCH, Scene.TO_SWITCH, 0, 0, 0, s));
+        }
+        x.tick(2);
+        for (int s = 0; s < 2; s++) {
+            due.frame("RECORD", x, 0, s, FabricModel.make(2, Scene.TO_SWITCH, Scene.TO_SWITCH, 0, 0, 0,
+                s, 0, 0, 2, s + 1, 1, 1 - s, 1 - s, 1, 0));
+        }
+    }
+
+    @Sentence("A RECORD tells a switch: LOAD: its number, its ISSUE (three bytes), domain, how many neighbours, each: port, switch, "
+        + "cost; how many nodes, each: node, port (both by rising ports; nodes with an address alone).")
     @Slip(from = "int LOAD_ROOM = 31;", to = "int LOAD_ROOM = 30;")
     @Slip(from = "            draft.add(neighbours);\n            for (int p = 0; p < PORTS; p++) {\n                if (ports[p].neighbour != NONE) {\n                    draft.add(p);",
         to = "            draft.add(neighbours);\n            for (int p = 0; p < PORTS; p++) {\n                if (ports[p].neighbour != NONE) {\n                    draft.add(p == 7 ? 6 : p);")
@@ -15,14 +28,13 @@ final class RecordEdges {
     @Slip(from = "nodes += ports[p].given != 0 ? 1 : 0;", to = "nodes += ports[p].isToNode() ? 1 : 0;")
     @Slip(from = "load[1] = (byte) (issue >> 16);", to = "load[1] = 1;")
     @Slip(from = "load[2] = (byte) (issue >> 8);", to = "load[2] = 0;")
+    @Slip(from = "load[2] = (byte) (issue >> 8);", to = "load[2] = (byte) (issue >> 7);")
     static void loadOfARecord(Due due) {
         ZonedFabric x = new ZonedFabric(2, 8, 2);
         for (int p = 0; p < 8; p++) {
             x.wire(0, 7 - p, 1, p, 1 + p);
         }
-        x.tick(1);
-        due.frame("HELLO", x, 0, 1, FabricModel.make(1, Scene.TO_SWITCH, Scene.TO_SWITCH, 0, 0, 0, 1));
-        x.tick(2);
+        x.tick(3);
         due.frame("eight neighbours", x, 7, 0, FabricModel.make(2, Scene.TO_SWITCH, Scene.TO_SWITCH, 0, 0, 0,
             0, 0, 0, 2, 1, 8, 0, 1, 8, 1, 1, 7, 2, 1, 6, 3, 1, 5, 4, 1, 4, 5, 1, 3, 6, 1, 2, 7, 1, 1, 0));
         x.tick(1);
@@ -45,8 +57,9 @@ final class RecordEdges {
         for (int i = 0; i < 34; i++) {
             y.tick(300);
         }
-        due.is("an issue of more than a byte", y.record(0, 1, 0), y.record(1, 1, 0));
-        due.yes("it is above 255", y.record(0, 1, 0) > 255);
+        // issued at 1, 3 and 33, and in every 40th tick since, till 10238
+        due.is("an issue of more than a byte", y.record(1, 1, 0), 258);
+        due.is("as the other one keeps it", y.record(0, 1, 0), 258);
     }
 
     @Sentence("A port to a switch has a NEIGHBOUR, when a HELLO came there (LOAD: the number of its switch).")
@@ -84,8 +97,34 @@ final class RecordEdges {
         return spot.x.record(0, of, 1);
     }
 
-    @Sentence({"Each switch KEEPS one of each switch, with the greatest issue that came, and its own.",
-        "A RECORD that comes with an issue greater than the one kept (0 if none is; of another switch than itself) is kept,"})
+    @Sentence("Each switch KEEPS one of each switch, with the greatest issue that came, and its own.")
+    @Slip(from = "issue <= notices[of].issue()", to = "issue < notices[of].issue() - 1")
+    @Slip(from = "            for (int i = 0; i < frame.length - HEADER - CHECK; i++) {\n                notice.add(frame.load(i));", to = "            for (int i = 0; i < frame.length - HEADER - CHECK; i++) {\n                notice.add(i == 3 ? 1 : frame.load(i));")
+    @Slip(from = "            notices[number] = draft;\n            draft = own;", to = "            Notice old = notices[0];\n            notices[0] = draft;\n            draft = old;")
+    static void oneOfEachSwitch(Due due) {
+        ZonedFabric x = Scene.row(5, 2);
+        x.tick(40);
+        for (int s = 0; s < 5; s++) {
+            for (int r = 0; r < 5; r++) {
+                due.is("the domain that " + s + " keeps of " + r, x.record(s, r, 1), r + 1);
+                due.is("the issue that " + s + " keeps of " + r, x.record(s, r, 0), 2);
+            }
+        }
+        // a RECORD of the switch at the other end, with issues 1 and 2 behind 3
+        Scene.Spot spot = thirdIssue();
+        spot.x.tick(1);
+        due.is("issue 3 came", spot.x.record(0, 1, 0), 3);
+        for (int issue = 1; issue <= 2; issue++) {
+            spot.x.tick(39);
+            spot.become(due, 2, Scene.TO_SWITCH, Scene.TO_SWITCH, 1, 0, 0, issue, 7, 1, 0, 0, 1, 0);
+            spot.x.tick(1);
+            due.is("issue " + issue + " came behind it", spot.x.record(0, 1, 0), 3);
+            due.is("its domain", spot.x.record(0, 1, 1), 2);
+        }
+        due.is("its own", spot.x.record(0, 0, 0), 5);
+    }
+
+    @Sentence("A RECORD that comes with an issue greater than the one kept (0 if none is; of another switch than itself) is kept,")
     @Slip(from = "issue <= notices[of].issue()", to = "issue < notices[of].issue()")
     @Slip(from = "issue <= notices[of].issue()", to = "issue <= notices[of].issue() + 1")
     @Slip(from = "|| of == number || issue", to = "|| issue")
@@ -103,12 +142,6 @@ final class RecordEdges {
         due.is("issue 256 of one that is not kept", kept(due, 2, 256), 7);
         due.is("issue 65536 of one that is not kept", kept(due, 2, 65536), 7);
         due.is("a great issue of itself", kept(due, 0, 999), 1);
-        Scene.Spot spot = thirdIssue();
-        due.is("its own", spot.x.record(0, 0, 0), 3);
-        due.is("that of the other, ahead", spot.x.record(0, 1, 0), 2);
-        spot.x.tick(1);
-        due.is("that of the other", spot.x.record(0, 1, 0), 3);
-        due.is("none of the third", spot.x.record(0, 2, 0), -1);
     }
 
     @Sentence("When what its own would tell has changed, or in the 40th tick since it was issued, it ISSUES it anew,")
@@ -227,6 +260,8 @@ final class RecordEdges {
     @Slip(from = "int RECORD_LIFE = 150;", to = "int RECORD_LIFE = 151;")
     @Slip(from = "                    notice.clear();\n                    forgot = true;", to = "                    notice.size = 4;\n                    forgot = true;")
     @Slip(from = "            if (forgot) {\n                findWays();\n            }\n", to = "")
+    @Slip(from = "for (int r = 0; r < notices.length; r++) {\n                Notice notice", to = "for (int r = 1; r < notices.length; r++) {\n                Notice notice")
+    @Slip(from = "for (int r = 0; r < notices.length; r++) {\n                Notice notice", to = "for (int r = 0; r < notices.length - 1; r++) {\n                Notice notice")
     static void keptFor150Ticks(Due due) {
         ZonedFabric x = Scene.row(3, 2);
         x.tick(30);
@@ -241,18 +276,24 @@ final class RecordEdges {
         x.join(1);
         x.tick(20);
         due.is("it comes anew", x.way(0, 3), 1);
-        // every RECORD of 1 is gone on its way to 0
+        // every RECORD is gone on its way
         ZonedFabric y = Scene.row(2, 2);
         y.tick(10);
         for (int t = 10; t < 153; t++) {
             y.tick(1);
+            y.flip(0, 0, 20);
             y.flip(0, 1, 20);
         }
-        due.is("kept at 4, there at 153", y.record(0, 1, 4), 4);
-        due.is("the way by it", y.way(0, 2), 1);
+        for (int s = 0; s < 2; s++) {
+            due.is("kept at 4, there at 153", y.record(s, 1 - s, 4), 4);
+            due.is("the way by it", y.way(s, 2 - s), 1 - s);
+        }
         y.tick(1);
-        due.is("not at 154", y.record(0, 1, 4), -1);
-        due.is("nor the way by it", y.way(0, 2), -1);
+        for (int s = 0; s < 2; s++) {
+            due.is("not at 154", y.record(s, 1 - s, 4), -1);
+            due.is("nor the way by it", y.way(s, 2 - s), -1);
+            due.is("its own, which is issued anew, is", y.record(s, s, 4), 123);
+        }
     }
 
     @Sentence("At a HELLO: the neighbour is noted, then all records that it keeps (of others, by numbers) go to that port's queue; "

@@ -141,6 +141,7 @@ final class TickEdges {
     @Slip(from = "|| from != port.given\n", to = "|| (from & 255) != port.nodeThere() + 1\n")
     @Slip(from = "|| from != port.given\n", to = "|| from > port.given\n")
     @Slip(from = "|| from != port.given\n", to = "|| from < port.given\n")
+    @Slip(from = "(port.given == 0 || from != port.given\n", to = "(from != port.given\n")
     static void fromIsTheAddressThatWasGiven(Due due) {
         due.is("as it was given", atANodesPort(due, Scene.home(1), 0x010001), 7);
         for (int from : new int[] {0, 1, 0x000001, 0x010000, 0x010002, 0x010101, 0x010102, 0x020001, 0x810001, 0x018001, 0xFFFFFE}) {
@@ -150,6 +151,13 @@ final class TickEdges {
         Scene.Spot spot = Scene.login();
         spot.x.domain(0, 9);
         due.is("an address that was taken back", Scene.fate(due, spot), 2);
+        // the first FLOGI, FROM 0, comes as another frame: none was given to that node
+        for (int to : new int[] {Scene.home(1), 0x050102}) {
+            Scene.Spot first = new Scene.Spot(Scene.star(2, 2), 0, 1);
+            first.x.tick(1);
+            first.become(due, 7, to, 0, 0);
+            due.is("FROM 0, where none was given", Scene.fate(due, first), 2);
+        }
     }
 
     @Sentence("and TO's node (there must be one) be in a common zone with it: else it is gone (COUNT 2).")

@@ -5,6 +5,7 @@ final class Unbounded {
             + "one another what they see and find ways by it, nodes that log in and ask for names, zones, and blocks that are read and "
             + "written by exchanges, each of which ends with an answer, or an abort, in time.",
         "TIME is in TICKS.",
+        "All memory is the class's own.",
     };
 
     private Unbounded() {

@@ -70,9 +70,9 @@ final class WayEdges {
         }
     }
 
-    @Sentence({"From itself the switches of least sums of costs are found; the way to another one is the port (the least) to a neighbour, "
+    @Sentence("From itself the switches of least sums of costs are found; the way to another one is the port (the least) to a neighbour, "
         + "as its own record tells, that tells of it, too, over which the least sum is reached (that port's cost, and the least "
-        + "sum from that neighbour on).", "REACHED are those to which there is a way, and itself."})
+        + "sum from that neighbour on).")
     @Slip(from = "for (int i = 0; i < own.neighbours(); i++) {\n                int neighbour", to = "for (int i = own.neighbours() - 1; i >= 0; i--) {\n                int neighbour")
     @Slip(from = "neighbour < sums.length && areJoined(number, neighbour)\n", to = "neighbour < sums.length\n")
     @Slip(from = "own.neighbourCost(i) + sums[neighbour][s] == sums[number][s]", to = "sums[neighbour][s] < FAR")
@@ -111,10 +111,40 @@ final class WayEdges {
                 due.is("from " + row[i] + " to " + row[k], z.way(row[i], row[k] + 1), i == k ? 8 : i < k ? 1 : 0);
             }
         }
-        z.cut(2);
-        z.tick(20);
-        due.is("not reached", z.way(3, 2), -1);
-        due.is("reached", z.way(3, 5), 1);
+    }
+
+    @Sentence("REACHED are those to which there is a way, and itself.")
+    @Slip(from = "boolean reached = s == number || ways[s] != NONE;", to = "boolean reached = notices[s].isKept();")
+    @Slip(from = "boolean reached = s == number || ways[s] != NONE;", to = "boolean reached = ways[s] != NONE;")
+    static void reached(Due due) {
+        // host 0 and node 1 at switch 0 alone; disc 2 at switch 2, whose record is kept when it is reached no more
+        ZonedFabric x = new ZonedFabric(3, 3, 4);
+        x.disc(2);
+        x.wire(0, 7, 16, 0, 1);
+        x.wire(0, 6, 17, 0, 1);
+        x.wire(0, 1, 1, 0, 1);
+        x.wire(1, 1, 2, 0, 1);
+        x.wire(2, 7, 18, 0, 1);
+        x.tick(30);
+        due.is("2 is reached", x.way(0, 3), 1);
+        due.is("a READ", read(x), 10);
+        x.cut(3);
+        x.tick(5);
+        due.is("its record is kept", x.record(0, 2, 3), 1);
+        due.is("2 is not reached", x.way(0, 3), -1);
+        due.is("none is TOLD of the disc", read(x), 13);
+        // the switch itself is reached without any wire to another
+        ZonedFabric y = Scene.star(2, 2);
+        y.tick(10);
+        y.read(0, 1, 0, 0, 1);
+        y.tick(20);
+        due.is("TOLD by its own record", y.status(0), 10);
+    }
+
+    private static int read(ZonedFabric x) {
+        int c = x.read(0, 2, 0, 0, 1);
+        x.tick(125);
+        return x.status(c);
     }
 
     @Sentence("A switch is OFF (by what another one, or itself, keeps, its own record as issued last), if a reached one with a lower "

@@ -78,7 +78,7 @@ final class ZoneEdges {
         }
     }
 
-    @Sentence({"All memory is the class's own.", "A call that is refused changes nothing."})
+    @Sentence("A call that is refused changes nothing.")
     @Slip(from = "if (zone < 0 || zone >= ZONES || !shared.isNode(node)) {\n            return false;",
         to = "if (zone < 0 || zone >= ZONES || !shared.isNode(node)) {\n            shared.zonesOn = true;\n            return false;")
     @Slip(from = "if (!canBegin(host, disc, unit, block, count)) {\n            return -1;\n        }\n        return begin(host, disc, new Command(true",
