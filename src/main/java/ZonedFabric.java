@@ -937,11 +937,13 @@ public final class ZonedFabric {
             forgetOldRecords();
             sayHello();
             tellOwnRecord();
+            // A mask, as the rest of a division would be below 0 once TIME has gone round.
+            int first = shared.time & PORTS - 1;
             for (int i = 0; i < PORTS; i++) {
-                ports[(shared.time + i) % PORTS].sendFirst();
+                ports[(first + i) % PORTS].sendFirst();
             }
             for (int i = 0; i < PORTS; i++) {
-                serve(ports[(shared.time + i) % PORTS]);
+                serve(ports[(first + i) % PORTS]);
             }
         }
 

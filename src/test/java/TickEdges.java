@@ -41,9 +41,9 @@ final class TickEdges {
     }
 
     @Sentence("(2) The switches, by their numbers; each: its TIMERS (below); then its ports from TIME mod 8 on, round:")
-    @Slip(from = "serve(ports[(shared.time + i) % PORTS]);", to = "serve(ports[i]);")
-    @Slip(from = "serve(ports[(shared.time + i) % PORTS]);", to = "serve(ports[(shared.time + 1 + i) % PORTS]);")
-    @Slip(from = "serve(ports[(shared.time + i) % PORTS]);", to = "serve(ports[(shared.time + PORTS - i) % PORTS]);")
+    @Slip(from = "serve(ports[(first + i) % PORTS]);", to = "serve(ports[i]);")
+    @Slip(from = "serve(ports[(first + i) % PORTS]);", to = "serve(ports[(first + 1 + i) % PORTS]);")
+    @Slip(from = "serve(ports[(first + i) % PORTS]);", to = "serve(ports[(first + PORTS - i) % PORTS]);")
     @Slip(from = "for (int s = 0; s < switches.length; s++) {\n                switches[s].turn();", to = "for (int s = 0; s < switches.length - 1; s++) {\n                switches[s].turn();")
     static void portsFromTimeOnRound(Due due) {
         int[][] pairs = {{0, 7, 3}, {2, 5, 7}, {6, 7, 0}, {0, 1, 2}, {3, 4, 5}};
@@ -95,8 +95,8 @@ final class TickEdges {
     }
 
     @Sentence("Then its ports in the same order: the first frame in the buffers, if there is one (and one alone in a tick):")
-    @Slip(from = "serve(ports[(shared.time + i) % PORTS]);",
-        to = "serve(ports[(shared.time + i) % PORTS]);\n                serve(ports[(shared.time + i) % PORTS]);")
+    @Slip(from = "serve(ports[(first + i) % PORTS]);",
+        to = "serve(ports[(first + i) % PORTS]);\n                serve(ports[(first + i) % PORTS]);")
     static void oneAloneInATick(Due due) {
         ZonedFabric x = Scene.star(3, 4);
         x.tick(10);
